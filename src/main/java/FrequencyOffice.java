@@ -899,6 +899,14 @@ public final class FrequencyOffice {
             return get(separations, pair(k, other));
         }
 
+        private int sumOfSeparations(int k) {
+            int sum = 0;
+            for (int other = 0; other < size; other++) {
+                sum += other == k ? 0 : apart(k, other);
+            }
+            return sum;
+        }
+
         private int openTo(int k) {
             long shut = 0L;
             for (int other = 0; other < size; other++) {
@@ -1108,30 +1116,47 @@ public final class FrequencyOffice {
         private static final int ABOVE_ALL = 9 * (MOST_STATIONS - 1) + 2;
 
         private final Net net;
-        private final int[] given = new int[MOST_STATIONS];
+        private final int[] bySeparations = new int[MOST_STATIONS];
+        /** What the first stations with channels shut to each other station: a row for each number of them. */
+        private final long[] shut = new long[MOST_STATIONS * MOST_STATIONS];
 
         private Spans(Net licensed) {
             net = licensed;
         }
 
         private int leastByNumbers() {
+            sortBySeparations();
             for (int number = 0; number < ENOUGH; number++) {
-                if (assign(this, 0, number)) {
+                if (assign(this, 0, 0, number)) {
                     return number;
                 }
             }
             return ENOUGH;
         }
 
-        private static boolean assign(Spans spans, int k, int number) {
-            if (k >= spans.net.size) {
+        /** The most bound stations go first, since a number that is too low fails soonest at them. */
+        private void sortBySeparations() {
+            for (int k = 0; k < net.size; k++) {
+                int place = k;
+                while (place > 0 && net.sumOfSeparations(get(bySeparations, place - 1)) < net.sumOfSeparations(k)) {
+                    put(bySeparations, place, get(bySeparations, place - 1));
+                    place--;
+                }
+                put(bySeparations, place, k);
+            }
+        }
+
+        /** The stations of the bits of placed have their channels. */
+        private static boolean assign(Spans spans, int depth, int placed, int number) {
+            if (depth >= spans.net.size) {
                 return true;
             }
-            long shut = spans.shutTo(k, (1 << k) - 1);
+            int k = get(spans.bySeparations, depth);
+            long shutTo = spans.shutTo(depth, k);
             for (int channel = 0; channel < number; channel++) {
-                if (!contains(shut, channel)) {
-                    put(spans.given, k, channel);
-                    if (assign(spans, k + 1, number)) {
+                if (!contains(shutTo, channel)) {
+                    spans.place(k, channel, depth, placed);
+                    if (assign(spans, depth + 1, placed | 1 << k, number)) {
                         return true;
                     }
                 }
@@ -1151,8 +1176,8 @@ public final class FrequencyOffice {
             int least = ABOVE_ALL;
             for (int k = 0; k < spans.net.size; k++) {
                 if (!contains(placed, k)) {
-                    int channel = lowestOpen(spans.shutTo(k, placed));
-                    put(spans.given, k, channel);
+                    int channel = lowestOpen(spans.shutTo(depth, k));
+                    spans.place(k, channel, depth, placed);
                     int needed = Math.max(number, channel + 1);
                     least = Math.min(least, leastFrom(spans, depth + 1, placed | 1 << k, needed));
                 }
@@ -1160,22 +1185,31 @@ public final class FrequencyOffice {
             return least;
         }
 
-        private static int lowestOpen(long shut) {
-            int channel = 0;
-            while (channel < ABOVE_ALL && contains(shut, channel)) {
-                channel++;
-            }
-            return channel;
+        private static int lowestOpen(long shutTo) {
+            long lowestOpenBit = ~shutTo & (shutTo + 1L);
+            return Long.bitCount(lowestOpenBit - 1L);
         }
 
-        private long shutTo(int k, int placed) {
-            long shut = 0L;
+        /** Gives a station a channel, and tells those that have none yet, in the row after this one. */
+        private void place(int k, int channel, int depth, int placed) {
             for (int other = 0; other < net.size; other++) {
-                if (contains(placed, other)) {
-                    shut |= shutBy(get(given, other), net.apart(k, other));
+                if (other != k && !contains(placed, other)) {
+                    long shutNow = shutTo(depth, other) | shutBy(channel, net.apart(k, other));
+                    putShut(depth + 1, other, shutNow);
                 }
             }
-            return shut;
+        }
+
+        private long shutTo(int depth, int k) {
+            int index = pair(depth, k);
+            return index >= 0 && index < shut.length ? shut[index] : 0L;
+        }
+
+        private void putShut(int depth, int k, long channels) {
+            int index = pair(depth, k);
+            if (index >= 0 && index < shut.length) {
+                shut[index] = channels;
+            }
         }
     }
 }
