@@ -71,7 +71,8 @@ public final class FrequencyOffice {
         checkPoint(x, y);
         checkRange(days, 1, LONGEST_TERM);
         checkRoom();
-        planForNew(x, y);
+        search.serveNew(books, x, y);
+        findPlan();
         history.keep(books);
         int served = books.append(x, y, books.day + days, false);
         books.carryOut(search.plan, served);
@@ -260,7 +261,8 @@ public final class FrequencyOffice {
 
     public int movesFor(int x, int y) throws IllegalArgumentException, UnsupportedOperationException {
         checkPoint(x, y);
-        planForNew(x, y);
+        search.serveNew(books, x, y);
+        findPlan();
         return search.plan.moves;
     }
 
@@ -273,14 +275,19 @@ public final class FrequencyOffice {
     public int movesToChange(int id, int channel)
             throws NoSuchElementException, IllegalArgumentException, IllegalStateException,
             UnsupportedOperationException {
-        planForChange(placeOf(id), channel);
+        int place = placeOf(id);
+        checkChange(place, channel);
+        search.serveChange(books, place, channel);
+        findPlan();
         return search.plan.moves;
     }
 
     public int movesToChangeByQueue(int id, int channel)
             throws NoSuchElementException, IllegalArgumentException, IllegalStateException,
             UnsupportedOperationException {
-        serveChange(placeOf(id), channel);
+        int place = placeOf(id);
+        checkChange(place, channel);
+        search.serveChange(books, place, channel);
         return movesByQueue();
     }
 
@@ -288,7 +295,9 @@ public final class FrequencyOffice {
             throws NoSuchElementException, IllegalArgumentException, IllegalStateException,
             UnsupportedOperationException {
         int place = placeOf(id);
-        planForChange(place, channel);
+        checkChange(place, channel);
+        search.serveChange(books, place, channel);
+        findPlan();
         history.keep(books);
         books.carryOut(search.plan, place);
         return search.plan.moves;
@@ -442,6 +451,15 @@ public final class FrequencyOffice {
         }
     }
 
+    private void checkChange(int place, int channel) {
+        checkChannel(channel);
+        Station station = books.at(place);
+        checkLicensed(station);
+        if (station.channel == channel) {
+            throw new IllegalStateException("the station has this channel");
+        }
+    }
+
     private void checkComplaint(int place, int other) {
         checkLicensed(books.at(place));
         checkLicensed(books.at(other));
@@ -470,26 +488,6 @@ public final class FrequencyOffice {
     }
 
     // ---- making plans
-
-    private void planForNew(int x, int y) {
-        search.serveNew(books, x, y);
-        findPlan();
-    }
-
-    private void planForChange(int place, int channel) {
-        serveChange(place, channel);
-        findPlan();
-    }
-
-    private void serveChange(int place, int channel) {
-        checkChannel(channel);
-        Station station = books.at(place);
-        checkLicensed(station);
-        if (station.channel == channel) {
-            throw new IllegalStateException("the station has this channel");
-        }
-        search.serveChange(books, place, channel);
-    }
 
     private void findPlan() {
         if (!search.findByOrder()) {
@@ -724,7 +722,7 @@ public final class FrequencyOffice {
         }
 
         private int baseBetween(int i, int j) {
-            return baseAt(squaredBetween(i, j));
+            return baseAt(at(i).squaredTo(at(j).x, at(j).y));
         }
 
         private int complaintsBetween(int i, int j) {
@@ -814,10 +812,6 @@ public final class FrequencyOffice {
             }
             at(served).channel = plan.channel;
             lastPlan.take(plan);
-            endConflictingTrials();
-        }
-
-        private void endConflictingTrials() {
             for (int i = count - 1; i >= 0; i--) {
                 if (at(i).onTrial && conflictsWithLicensed(i)) {
                     remove(i);
@@ -945,11 +939,13 @@ public final class FrequencyOffice {
         }
 
         private void serveChange(Books books, int served, int channel) {
+            net.load(books, served);
             serveLicensed(books, served);
             wanted = 1 << channel;
         }
 
         private void serveComplaint(Books books, int complaining, int served) {
+            net.load(books, served);
             serveLicensed(books, served);
             for (int k = 0; k < net.size; k++) {
                 if (get(net.ids, k) == complaining) {
@@ -962,7 +958,6 @@ public final class FrequencyOffice {
         private void serveLicensed(Books books, int served) {
             wanted = ALL_CHANNELS;
             held = NONE;
-            net.load(books, served);
             for (int k = 0; k < net.size; k++) {
                 int place = get(net.places, k);
                 boolean inReach = books.squaredBetween(place, served) < books.far * books.far;
