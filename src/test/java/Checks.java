@@ -33,6 +33,20 @@ final class Checks {
         }
     }
 
+    /** For long texts: only the first line that differs is told. */
+    static void same(String what, String want, String got) {
+        String[] wanted = want.split("\n");
+        String[] given = got.split("\n");
+        for (int i = 0; i < Math.max(wanted.length, given.length); i++) {
+            String due = i < wanted.length ? wanted[i] : "nothing more";
+            String found = i < given.length ? given[i] : "nothing more";
+            if (!due.equals(found)) {
+                report(what + ": line " + i + " is " + found + ", due is " + due);
+                return;
+            }
+        }
+    }
+
     static boolean thrownByTheClass(Throwable thrown) {
         StackTraceElement[] trace = thrown.getStackTrace();
         return trace.length > 0 && trace[0].getClassName().startsWith("FrequencyOffice");

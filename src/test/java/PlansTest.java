@@ -30,7 +30,7 @@ public final class PlansTest {
 
     /** Three stations of separation 3 with the channels 0, 4 and 7. */
     private static FrequencyOffice three() {
-        FrequencyOffice office = StationsTest.crowded();
+        FrequencyOffice office = Offices.crowded();
         for (int i = 0; i < 3; i++) {
             office.license(10 * i, 10 * i, 100);
         }
@@ -39,7 +39,7 @@ public final class PlansTest {
 
     /** Two stations of separation 3 with two channels. */
     private static FrequencyOffice two(int channel, int other) {
-        FrequencyOffice office = StationsTest.crowded();
+        FrequencyOffice office = Offices.crowded();
         office.license(0, 0, 100);
         office.license(10, 10, 100);
         if (other != 4) {
@@ -65,7 +65,7 @@ public final class PlansTest {
     }
 
     private static void promise34OpenChannels() {
-        FrequencyOffice office = StationsTest.crowded();
+        FrequencyOffice office = Offices.crowded();
         Checks.due("34: all", 255, () -> office.openChannels(0, 0));
         office.startTrial(0, 0, 9);
         Checks.due("34: trials do not matter", 255, () -> office.openChannels(99, 99));
@@ -85,7 +85,7 @@ public final class PlansTest {
     }
 
     private static void promises35And36MovesFor() {
-        movesFor("no station", StationsTest.crowded(), 0);
+        movesFor("no station", Offices.crowded(), 0);
         movesFor("no move", two(0, 4), 0);
         movesFor("one move", two(0, 5), 1);
         movesFor("two moves", two(2, 5), 2);
@@ -188,7 +188,7 @@ public final class PlansTest {
     }
 
     private static void promise39EndsTrials() {
-        FrequencyOffice office = StationsTest.crowded();
+        FrequencyOffice office = Offices.crowded();
         office.license(0, 0, 100);
         office.startTrial(0, 0, 9);
         office.startTrial(0, 0, 9);
@@ -216,7 +216,7 @@ public final class PlansTest {
         Checks.refused("40: not a third one", ISE, () -> office.complain(0, 1));
         Checks.refused("40: not a third one of the other", ISE, () -> office.complain(1, 0));
         Checks.due("40: the last plan is the last change", 0, office::moveCount);
-        FrequencyOffice apart = StationsTest.crowded();
+        FrequencyOffice apart = Offices.crowded();
         apart.startTrial(0, 0, 9);
         apart.startTrial(0, 0, 9);
         apart.confirm(0, 9);
@@ -300,7 +300,7 @@ public final class PlansTest {
     }
 
     private static void promises41To44LastPlan() {
-        FrequencyOffice office = StationsTest.crowded();
+        FrequencyOffice office = Offices.crowded();
         noMove("no plan so far", office, 0);
         Checks.refused("41: no plan so far", NSE, office::moveCount);
         office.startTrial(0, 0, 9);

@@ -42,7 +42,7 @@ public final class SeparationsTest {
             Checks.due("27: no complaints", 0, () -> office.complaintCount(0, id));
             office.close(id);
         }
-        FrequencyOffice corners = StationsTest.crowded();
+        FrequencyOffice corners = Offices.crowded();
         corners.license(0, 0, 9);
         corners.license(99, 99, 9);
         Checks.due("25: the largest distance", 19602, () -> corners.squaredDistance(1, 0));
@@ -50,7 +50,7 @@ public final class SeparationsTest {
     }
 
     private static void promise26OtherRadii() {
-        FrequencyOffice none = StationsTest.empty();
+        FrequencyOffice none = Offices.empty();
         none.license(5, 5, 9);
         none.license(5, 5, 9);
         Checks.due("26: the radius 0 reaches nothing", 0, () -> none.baseSeparation(0, 1));
@@ -97,7 +97,7 @@ public final class SeparationsTest {
     }
 
     private static void promise29Margin() {
-        FrequencyOffice office = StationsTest.crowded();
+        FrequencyOffice office = Offices.crowded();
         office.license(0, 0, 9);
         office.license(0, 0, 9);
         office.startTrial(0, 0, 9);
@@ -106,7 +106,7 @@ public final class SeparationsTest {
         Checks.due("29: 7 minus 4 minus 3", 0, () -> office.margin(2, 1));
         office.complain(0, 1);
         Checks.due("29: complaints count", 0, () -> office.margin(0, 1));
-        FrequencyOffice apart = StationsTest.empty();
+        FrequencyOffice apart = Offices.empty();
         apart.license(0, 0, 9);
         apart.license(0, 0, 9);
         Checks.due("29: nothing", 0, () -> apart.margin(0, 1));
@@ -211,7 +211,7 @@ public final class SeparationsTest {
     }
 
     private static void promise33IsConsistent() {
-        FrequencyOffice office = StationsTest.crowded();
+        FrequencyOffice office = Offices.crowded();
         office.license(0, 0, 2);
         office.startTrial(0, 0, 1);
         office.startTrial(0, 0, 3);

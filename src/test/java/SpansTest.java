@@ -21,7 +21,7 @@ public final class SpansTest {
     }
 
     private static void none() {
-        FrequencyOffice office = StationsTest.crowded();
+        FrequencyOffice office = Offices.crowded();
         spans("no station", office, 0, 0);
         office.startTrial(0, 0, 9);
         office.startTrial(0, 0, 9);
@@ -29,7 +29,7 @@ public final class SpansTest {
     }
 
     private static void crowded() {
-        FrequencyOffice office = StationsTest.crowded();
+        FrequencyOffice office = Offices.crowded();
         office.license(0, 0, 9);
         spans("one station", office, 1, 1);
         office.change(0, 6);
@@ -46,7 +46,7 @@ public final class SpansTest {
     }
 
     private static void sameChannel() {
-        FrequencyOffice office = StationsTest.empty();
+        FrequencyOffice office = Offices.empty();
         for (int i = 0; i < 7; i++) {
             office.license(0, 0, 9);
         }
@@ -65,7 +65,7 @@ public final class SpansTest {
     }
 
     private static void eightChannels() {
-        FrequencyOffice office = StationsTest.crowded();
+        FrequencyOffice office = Offices.crowded();
         for (int i = 0; i < 3; i++) {
             office.license(0, 0, 9);
         }
@@ -76,7 +76,7 @@ public final class SpansTest {
     }
 
     private static void complaints() {
-        FrequencyOffice office = StationsTest.crowded();
+        FrequencyOffice office = Offices.crowded();
         office.license(0, 0, 9);
         office.license(0, 0, 9);
         office.complain(0, 1);

@@ -35,20 +35,6 @@ public final class StationsTest {
         Checks.end();
     }
 
-    /** Every two stations have the separation 3. */
-    static FrequencyOffice crowded() {
-        FrequencyOffice office = new FrequencyOffice();
-        office.setRadii(200, 200, 200);
-        return office;
-    }
-
-    /** No two stations have a separation, and none disturbs another one. */
-    static FrequencyOffice empty() {
-        FrequencyOffice office = new FrequencyOffice();
-        office.setRadii(0, 0, 0);
-        return office;
-    }
-
     private static void promise1NewObject() {
         FrequencyOffice office = new FrequencyOffice();
         Checks.due("1: the day", 0, office::today);
@@ -108,7 +94,7 @@ public final class StationsTest {
     }
 
     private static void promise6License() {
-        FrequencyOffice office = crowded();
+        FrequencyOffice office = Offices.crowded();
         Checks.due("6: the first id", 0, () -> office.license(0, 0, 1));
         Checks.due("6: the lowest channel", 0, () -> office.channelOf(0));
         Checks.due("6: the next id", 1, () -> office.license(99, 99, 365));
@@ -127,7 +113,7 @@ public final class StationsTest {
     }
 
     private static void moveForNew() {
-        FrequencyOffice office = crowded();
+        FrequencyOffice office = Offices.crowded();
         office.license(0, 0, 9);
         office.license(1, 1, 9);
         office.change(1, 5);
@@ -158,7 +144,7 @@ public final class StationsTest {
     }
 
     private static void promise6SevenStations() {
-        FrequencyOffice office = empty();
+        FrequencyOffice office = Offices.empty();
         for (int i = 0; i < 7; i++) {
             int id = i;
             Checks.due("6: station " + i, id, () -> office.license(50, 50, 9));
@@ -196,7 +182,7 @@ public final class StationsTest {
     }
 
     private static void promise7StartTrial() {
-        FrequencyOffice office = crowded();
+        FrequencyOffice office = Offices.crowded();
         Checks.due("7: the first id", 0, () -> office.startTrial(7, 8, 30));
         Checks.due("7: the lowest channel", 0, () -> office.channelOf(0));
         Checks.due("7: on trial", true, () -> office.isOnTrial(0));
@@ -217,7 +203,7 @@ public final class StationsTest {
     }
 
     private static void trialNextToLicensed() {
-        FrequencyOffice office = crowded();
+        FrequencyOffice office = Offices.crowded();
         office.license(0, 0, 9);
         office.license(0, 0, 9);
         office.change(1, 5);
@@ -275,7 +261,7 @@ public final class StationsTest {
     }
 
     private static void promise10Close() {
-        FrequencyOffice office = empty();
+        FrequencyOffice office = Offices.empty();
         office.license(1, 2, 10);
         office.license(3, 4, 20);
         office.startTrial(5, 6, 30);
@@ -293,7 +279,7 @@ public final class StationsTest {
     }
 
     private static void promise11And12Pass() {
-        FrequencyOffice office = empty();
+        FrequencyOffice office = Offices.empty();
         office.license(0, 0, 1);
         office.license(0, 0, 2);
         office.startTrial(0, 0, 2);
@@ -312,7 +298,7 @@ public final class StationsTest {
     }
 
     private static void promise11LastDay() {
-        FrequencyOffice office = empty();
+        FrequencyOffice office = Offices.empty();
         for (int i = 0; i < 10; i++) {
             office.pass(99);
         }
@@ -330,7 +316,7 @@ public final class StationsTest {
     }
 
     private static void promise13And14Counts() {
-        FrequencyOffice office = empty();
+        FrequencyOffice office = Offices.empty();
         Checks.due("13: none", 0, office::stationCount);
         office.license(0, 0, 1);
         office.startTrial(0, 0, 1);
@@ -345,7 +331,7 @@ public final class StationsTest {
     }
 
     private static void promise15Exists() {
-        FrequencyOffice office = empty();
+        FrequencyOffice office = Offices.empty();
         Checks.due("15: none at first", false, () -> office.exists(0));
         office.license(0, 0, 1);
         office.startTrial(0, 0, 2);
@@ -361,7 +347,7 @@ public final class StationsTest {
     }
 
     private static void promise16StationAt() {
-        FrequencyOffice office = empty();
+        FrequencyOffice office = Offices.empty();
         Checks.refused("16: no station", IOE, () -> office.stationAt(0));
         for (int i = 0; i < 7; i++) {
             office.license(0, 0, 100 - i);
@@ -380,7 +366,7 @@ public final class StationsTest {
     }
 
     private static void promise17StationByExpiry() {
-        FrequencyOffice office = empty();
+        FrequencyOffice office = Offices.empty();
         Checks.refused("17: no station", IOE, () -> office.stationByExpiry(0));
         int[] days = {20, 5, 20, 30, 5, 1, 20};
         for (int i = 0; i < 7; i++) {
@@ -429,7 +415,7 @@ public final class StationsTest {
     }
 
     private static void promise23ExpiredTotal() {
-        FrequencyOffice office = empty();
+        FrequencyOffice office = Offices.empty();
         office.license(0, 0, 1);
         office.startTrial(0, 0, 1);
         office.license(0, 0, 4);
@@ -444,7 +430,7 @@ public final class StationsTest {
     }
 
     private static void promise24EndedTrials() {
-        FrequencyOffice office = crowded();
+        FrequencyOffice office = Offices.crowded();
         office.startTrial(0, 0, 9);
         office.startTrial(0, 0, 9);
         office.startTrial(0, 0, 9);

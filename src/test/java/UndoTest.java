@@ -41,7 +41,7 @@ public final class UndoTest {
     }
 
     private static void promises48And49Line() {
-        FrequencyOffice office = StationsTest.crowded();
+        FrequencyOffice office = Offices.crowded();
         lineIs(office, "");
         office.license(12, 40, 120);
         line(office, 0, "0@12,40 c0 L120");
@@ -61,7 +61,7 @@ public final class UndoTest {
     }
 
     private static void promise48Refusals() {
-        FrequencyOffice office = StationsTest.crowded();
+        FrequencyOffice office = Offices.crowded();
         Checks.refused("48: no station", NSE, () -> office.writeStation(0));
         office.license(1, 2, 3);
         office.writeStation(0);
@@ -108,7 +108,7 @@ public final class UndoTest {
     }
 
     private static void promise50Totals() {
-        FrequencyOffice office = StationsTest.crowded();
+        FrequencyOffice office = Offices.crowded();
         office.startTrial(0, 0, 9);
         office.license(0, 0, 9);
         Checks.due("24: ended", 1, office::endedTrials);
@@ -123,7 +123,7 @@ public final class UndoTest {
     }
 
     private static void promise50LastPlan() {
-        FrequencyOffice office = StationsTest.crowded();
+        FrequencyOffice office = Offices.crowded();
         office.license(0, 0, 9);
         office.undo();
         Checks.refused("50: no plan so far", NSE, office::moveCount);
@@ -160,7 +160,7 @@ public final class UndoTest {
     }
 
     private static void promise50SixModifications() {
-        FrequencyOffice office = StationsTest.empty();
+        FrequencyOffice office = Offices.empty();
         for (int i = 0; i < 19; i++) {
             office.pass(1);
         }
@@ -186,7 +186,7 @@ public final class UndoTest {
     }
 
     private static void promise50NothingElse() {
-        FrequencyOffice office = StationsTest.empty();
+        FrequencyOffice office = Offices.empty();
         office.license(0, 0, 9);
         office.writeStation(0);
         office.save();
@@ -198,7 +198,7 @@ public final class UndoTest {
     }
 
     private static void promise51And52Snapshot() {
-        FrequencyOffice office = StationsTest.crowded();
+        FrequencyOffice office = Offices.crowded();
         Checks.refused("52: no snapshot", ISE, office::restore);
         office.license(0, 0, 9);
         office.startTrial(0, 0, 9);
@@ -239,7 +239,7 @@ public final class UndoTest {
     }
 
     private static void restoredPlanAndComplaint() {
-        FrequencyOffice office = StationsTest.crowded();
+        FrequencyOffice office = Offices.crowded();
         office.startTrial(0, 0, 9);
         office.license(0, 0, 9);
         office.license(0, 0, 9);
@@ -259,7 +259,7 @@ public final class UndoTest {
     }
 
     private static void lineStays() {
-        FrequencyOffice office = StationsTest.empty();
+        FrequencyOffice office = Offices.empty();
         office.license(1, 2, 3);
         office.save();
         office.writeStation(0);
