@@ -602,7 +602,7 @@ public final class FrequencyOffice {
         private final Plan lastPlan = new Plan();
 
         private Books() {
-            for (int i = 0; i < MOST_STATIONS; i++) {
+            for (int i = 0; i < stations.length; i++) {
                 stations[i] = new Station();
             }
         }
@@ -828,7 +828,7 @@ public final class FrequencyOffice {
         private int kept = 0;
 
         private History() {
-            for (int i = 0; i < MOST_UNDONE; i++) {
+            for (int i = 0; i < past.length; i++) {
                 past[i] = new Books();
             }
         }

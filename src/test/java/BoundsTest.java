@@ -345,6 +345,7 @@ public final class BoundsTest {
         Checks.due("15: the trial", true, () -> office.exists(1));
         Checks.due("11: the trial's day", 1, () -> office.pass(1));
         Checks.due("15: the trial", false, () -> office.exists(1));
+        Checks.due("24: an expired trial was not ended by a plan", 0, office::endedTrials);
         Checks.due("11: the day after", 0, () -> office.pass(1));
         FrequencyOffice last = Offices.onDay(900);
         last.license(0, 0, 99);
@@ -468,10 +469,9 @@ public final class BoundsTest {
         Checks.due("29: 7 - 0", 7, () -> apart.margin(0, 1));
     }
 
-    /** Four licensed stations and two trials that all reach 50,50, but not each other unless on one point. */
+    /** Four licensed stations that all reach 50,50, but not each other. */
     private static FrequencyOffice around() {
-        FrequencyOffice office = new FrequencyOffice();
-        office.setRadii(0, 0, 60);
+        FrequencyOffice office = Offices.withRadii(0, 0, 60);
         office.license(50, 0, 9);
         office.license(50, 99, 9);
         office.license(0, 50, 9);

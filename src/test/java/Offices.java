@@ -3,32 +3,30 @@ final class Offices {
     private Offices() {
     }
 
+    static FrequencyOffice withRadii(int near, int middle, int far) {
+        FrequencyOffice office = new FrequencyOffice();
+        office.setRadii(near, middle, far);
+        return office;
+    }
+
     /** Every two stations have the separation 3. */
     static FrequencyOffice crowded() {
-        FrequencyOffice office = new FrequencyOffice();
-        office.setRadii(200, 200, 200);
-        return office;
+        return withRadii(200, 200, 200);
     }
 
     /** Every two stations have the separation 2. */
     static FrequencyOffice twoApart() {
-        FrequencyOffice office = new FrequencyOffice();
-        office.setRadii(0, 200, 200);
-        return office;
+        return withRadii(0, 200, 200);
     }
 
     /** Every two stations have the separation 1. */
     static FrequencyOffice oneApart() {
-        FrequencyOffice office = new FrequencyOffice();
-        office.setRadii(0, 0, 200);
-        return office;
+        return withRadii(0, 0, 200);
     }
 
     /** No two stations have a separation, and none disturbs another one. */
     static FrequencyOffice empty() {
-        FrequencyOffice office = new FrequencyOffice();
-        office.setRadii(0, 0, 0);
-        return office;
+        return withRadii(0, 0, 0);
     }
 
     /** Seven licensed stations at one point, with the ids 0 to 6. */

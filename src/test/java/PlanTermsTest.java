@@ -46,12 +46,6 @@ public final class PlanTermsTest {
         Checks.end();
     }
 
-    private static FrequencyOffice withRadii(int near, int middle, int far) {
-        FrequencyOffice office = new FrequencyOffice();
-        office.setRadii(near, middle, far);
-        return office;
-    }
-
     private static void license(FrequencyOffice office, int... coordinates) {
         for (int i = 0; i + 1 < coordinates.length; i += 2) {
             office.license(coordinates[i], coordinates[i + 1], 100);
@@ -168,7 +162,7 @@ public final class PlanTermsTest {
 
     /** A station of separation 2 from two at another point, which are of separation 3. */
     private static FrequencyOffice oneAndTwo(int third) {
-        FrequencyOffice office = withRadii(20, 200, 200);
+        FrequencyOffice office = Offices.withRadii(20, 200, 200);
         license(office, 0, 20, 40, 20, 40, 20);
         bring(office, 2, third);
         bring(office, 1, 2);
@@ -201,7 +195,7 @@ public final class PlanTermsTest {
 
     /** "moves, which are made one after the other": here the higher id has to make room for the lower one. */
     private static void movesAreMadeOneAfterTheOther() {
-        FrequencyOffice office = withRadii(10, 20, 40);
+        FrequencyOffice office = Offices.withRadii(10, 20, 40);
         license(office, 20, 10, 10, 0, 10, 10, 30, 10);
         movesFor("1 before 0", office, 10, 0, 2);
         license(office, 10, 0);
@@ -325,7 +319,7 @@ public final class PlanTermsTest {
 
     /** Even if a plan with two moves would begin with a lower id. */
     private static void oneMoveIsBetterThanTwo() {
-        FrequencyOffice office = withRadii(10, 20, 40);
+        FrequencyOffice office = Offices.withRadii(10, 20, 40);
         license(office, 20, 0, 30, 10);
         channels("6: two stations", office, 0, 4);
         license(office, 20, 10);
@@ -345,7 +339,7 @@ public final class PlanTermsTest {
 
     /** "then the one whose first move has the lower new channel": 2, though 4 would bring a smaller disturbance. */
     private static void thenTheLowerChannelOfTheFirstMove() {
-        FrequencyOffice office = withRadii(0, 30, 200);
+        FrequencyOffice office = Offices.withRadii(0, 30, 200);
         license(office, 20, 20, 20, 0);
         channels("6: two stations", office, 0, 4);
         movesToChange("0 to 2", office, 1, 0, 1);
@@ -355,7 +349,7 @@ public final class PlanTermsTest {
 
     /** "then the same for the second move": the first one's channel 2 counts before the second one's lower id. */
     private static void theFirstMoveGoesBeforeTheSecond() {
-        FrequencyOffice office = withRadii(20, 200, 200);
+        FrequencyOffice office = Offices.withRadii(20, 200, 200);
         license(office, 20, 0, 0, 0, 20, 10);
         channels("6: three stations", office, 0, 4, 7);
         license(office, 10, 10);
@@ -365,7 +359,7 @@ public final class PlanTermsTest {
 
     /** "then the same for the second move": the lower id, though a higher one would get a lower channel. */
     private static void thenTheLowerIdOfTheSecondMove() {
-        FrequencyOffice office = withRadii(20, 200, 200);
+        FrequencyOffice office = Offices.withRadii(20, 200, 200);
         license(office, 0, 0, 10, 0, 30, 0);
         office.change(0, 1);
         license(office, 20, 10);
@@ -384,7 +378,7 @@ public final class PlanTermsTest {
 
     /** "then the one with the smaller disturbance at the point and the channel of the served station" */
     private static void thenTheSmallerDisturbance() {
-        FrequencyOffice office = withRadii(20, 200, 200);
+        FrequencyOffice office = Offices.withRadii(20, 200, 200);
         license(office, 40, 0, 60, 0);
         Checks.due("34: 2 is open", 0b11111100, () -> withOne().openChannels(60, 0));
         channels("6: 4, not 2", office, 0, 4);
@@ -394,7 +388,7 @@ public final class PlanTermsTest {
     }
 
     private static FrequencyOffice withOne() {
-        FrequencyOffice office = withRadii(20, 200, 200);
+        FrequencyOffice office = Offices.withRadii(20, 200, 200);
         license(office, 40, 0);
         return office;
     }

@@ -276,39 +276,33 @@ public final class TermsTest {
         });
     }
 
-    private static FrequencyOffice withRadii(int near, int middle, int far) {
-        FrequencyOffice office = new FrequencyOffice();
-        office.setRadii(near, middle, far);
-        return office;
-    }
-
     /** The squared distance 0 is not less than the square of the radius 0, but less than that of 1. */
     private static void baseSeparationWithRadiusZero() {
-        base("26: all 0, one point", withRadii(0, 0, 0), 50, 50, 0);
-        base("26: far 1, one point", withRadii(0, 0, 1), 50, 50, 1);
-        base("26: far 1, the next point", withRadii(0, 0, 1), 51, 50, 0);
-        base("26: far 2, the next point", withRadii(0, 0, 2), 51, 50, 1);
-        base("26: middle 1, one point", withRadii(0, 1, 1), 50, 50, 2);
-        base("26: middle 1, the next point", withRadii(0, 1, 1), 50, 51, 0);
-        base("26: near 1, one point", withRadii(1, 1, 1), 50, 50, 3);
-        base("26: near 1, the next point", withRadii(1, 1, 1), 50, 49, 0);
+        base("26: all 0, one point", Offices.withRadii(0, 0, 0), 50, 50, 0);
+        base("26: far 1, one point", Offices.withRadii(0, 0, 1), 50, 50, 1);
+        base("26: far 1, the next point", Offices.withRadii(0, 0, 1), 51, 50, 0);
+        base("26: far 2, the next point", Offices.withRadii(0, 0, 2), 51, 50, 1);
+        base("26: middle 1, one point", Offices.withRadii(0, 1, 1), 50, 50, 2);
+        base("26: middle 1, the next point", Offices.withRadii(0, 1, 1), 50, 51, 0);
+        base("26: near 1, one point", Offices.withRadii(1, 1, 1), 50, 50, 3);
+        base("26: near 1, the next point", Offices.withRadii(1, 1, 1), 50, 49, 0);
     }
 
     /** With equal radii, the separations between them are left out. */
     private static void baseSeparationWithEqualRadii() {
-        base("26: near and middle 10, inside", withRadii(10, 10, 40), 59, 50, 3);
-        base("26: near and middle 10, at it", withRadii(10, 10, 40), 60, 50, 1);
-        base("26: middle and far 20, inside", withRadii(10, 20, 20), 69, 50, 2);
-        base("26: middle and far 20, at it", withRadii(10, 20, 20), 70, 50, 0);
-        base("26: all 20, inside", withRadii(20, 20, 20), 69, 50, 3);
-        base("26: all 20, at it", withRadii(20, 20, 20), 70, 50, 0);
+        base("26: near and middle 10, inside", Offices.withRadii(10, 10, 40), 59, 50, 3);
+        base("26: near and middle 10, at it", Offices.withRadii(10, 10, 40), 60, 50, 1);
+        base("26: middle and far 20, inside", Offices.withRadii(10, 20, 20), 69, 50, 2);
+        base("26: middle and far 20, at it", Offices.withRadii(10, 20, 20), 70, 50, 0);
+        base("26: all 20, inside", Offices.withRadii(20, 20, 20), 69, 50, 3);
+        base("26: all 20, at it", Offices.withRadii(20, 20, 20), 70, 50, 0);
     }
 
     /** The longest way on the map is a little less than 141. */
     private static void baseSeparationAcrossTheMap() {
         int[][] rows = {{0, 0, 140, 0}, {0, 0, 141, 1}, {0, 0, 200, 1}, {0, 141, 200, 2}, {141, 141, 141, 3}};
         for (int[] r : rows) {
-            FrequencyOffice office = withRadii(r[0], r[1], r[2]);
+            FrequencyOffice office = Offices.withRadii(r[0], r[1], r[2]);
             office.license(0, 0, 9);
             office.license(99, 99, 9);
             Checks.due("26: radii " + r[0] + " " + r[1] + " " + r[2], r[3], () -> office.baseSeparation(0, 1));
@@ -319,7 +313,7 @@ public final class TermsTest {
     private static void separationCountsComplaints() {
         int[][] rows = {{0, 0, 200, 1}, {0, 200, 200, 2}, {200, 200, 200, 3}};
         for (int[] r : rows) {
-            FrequencyOffice office = withRadii(r[0], r[1], r[2]);
+            FrequencyOffice office = Offices.withRadii(r[0], r[1], r[2]);
             office.license(0, 0, 9);
             office.license(9, 9, 9);
             for (int upheld = 0; upheld <= 2; upheld++) {
@@ -418,7 +412,7 @@ public final class TermsTest {
         }
         office.change(1, 7);
         Checks.due("29: both on channel 7", 0, () -> office.margin(0, 1));
-        FrequencyOffice far = withRadii(0, 0, 200);
+        FrequencyOffice far = Offices.withRadii(0, 0, 200);
         far.license(0, 0, 9);
         far.change(0, 4);
         int[] want = {0, 1, 2, 3, 4, 3, 2, 1};
@@ -431,7 +425,7 @@ public final class TermsTest {
     /** "Two stations conflict if the difference of their channels is less than their separation." */
     private static void conflictIsLessThanTheSeparation() {
         for (int base = 0; base <= 3; base++) {
-            FrequencyOffice office = withRadii(base >= 3 ? 200 : 0, base >= 2 ? 200 : 0, base >= 1 ? 200 : 0);
+            FrequencyOffice office = Offices.withRadii(base >= 3 ? 200 : 0, base >= 2 ? 200 : 0, base >= 1 ? 200 : 0);
             office.license(50, 50, 9);
             office.change(0, 3);
             for (int c = 0; c < 8; c++) {
@@ -478,7 +472,7 @@ public final class TermsTest {
         FrequencyOffice none = Offices.full();
         Checks.due("31: the radius 0 reaches not even the point itself", 0, () -> none.disturbanceAt(50, 50, 0));
         Checks.due("32: nor do they disturb each other", 0.0f, none::meanDisturbance);
-        FrequencyOffice one = withRadii(0, 0, 1);
+        FrequencyOffice one = Offices.withRadii(0, 0, 1);
         one.license(50, 50, 9);
         Checks.due("31: the radius 1 reaches it", 4, () -> one.disturbanceAt(50, 50, 0));
         Checks.due("31: and no further", 0, () -> one.disturbanceAt(50, 51, 0));
