@@ -56,8 +56,8 @@ public final class RefusalsTest {
             FrequencyOffice office = made.office();
             try {
                 call.on(office);
-            } catch (RuntimeException expected) {
-                return office;
+            } catch (RuntimeException thrown) {
+                // whether it is the right one has been checked above
             }
             return office;
         };
