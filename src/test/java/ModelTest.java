@@ -25,7 +25,7 @@ public final class ModelTest {
 
     private ModelTest(int run) {
         seed = run * 7919L + 17L;
-        width = new int[] {100, 30, 60, 45, 80}[run % 5];
+        width = new int[] {100, 30, 60, 45, 80, 12, 1}[run % 7];
         odd = run % 4 == 0;
         quiet = run % 3 != 0;
     }
@@ -69,7 +69,8 @@ public final class ModelTest {
     }
 
     private void go(int run, long[] reached) {
-        int[] radii = {below(30), below(40), below(60)};
+        int[] radii = run % 6 == 0 ? new int[] {below(201), below(201), below(201)}
+                : new int[] {below(30), below(40), below(60)};
         Arrays.sort(radii);
         boolean ownRadii = run % 2 == 0;
         for (int call = 0; call < CALLS; call++) {
